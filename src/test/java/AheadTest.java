@@ -64,6 +64,8 @@ public final class AheadTest {
         ahead(x, 7, 66, 0, 1, 8, 7);
         Check.work(x, "roll;");
         ahead(x, 2, 23, 1, 0, 4, 2);
+        Check.work(x, "roll;roll;");
+        CHECK.is("ahead(3, 3), 4 were owed", 4, x.ahead(3, 3));
         HoopHours y = Check.with(PARK, "", "give 0 0;roll;");
         ahead(y, 9, 23, 1, 0, 4, 2);
         HoopHours z = Check.with(PARK, "", "give 1 0;");
@@ -160,6 +162,12 @@ public final class AheadTest {
         CHECK.is("61 of this hour is", 0, begun.late());
         HoopHours many = Check.with("walk 1 0;".repeat(8) + "child 9 3;hoop 1;fine 0;", "10", "give 0 0;roll;");
         CHECK.is("without a fine, too", 0, many.late());
+        HoopHours five = Check.with("walk 1 0;" + "child 1 3;".repeat(5) + "hoop 1;".repeat(5), "",
+            "give 0 0;give 1 1;give 2 2;give 3 3;give 4 4;");
+        Check.law(five, "hoop / 4 * (tired / 79) * 90 + 1");
+        CHECK.is("in the 400th roll", 4, five.late());
+        Check.law(five, "(1 - least[hoop, 1]) * (tired / 80) * 90 + 1");
+        CHECK.is("not in the 401st one", -1, five.late());
         CHECK.is("late() of a new object", -1, new HoopHours().late());
     }
 
@@ -211,6 +219,9 @@ public final class AheadTest {
         CHECK.is("debtor(1)", 8, x.debtor(1));
         CHECK.illegal("debtor(2)", () -> x.debtor(2));
         CHECK.illegal("debtor(-1)", () -> x.debtor(-1));
+        HoopHours one = Check.with("walk 1 0;child 1 3;hoop 1;fine 1;long 1;", "9", "give 0 0;roll;");
+        CHECK.is("debtor(0) by a fine of 1", 0, one.debtor(0));
+        CHECK.is("debtor(1) by a fine of 1", 1, one.debtor(1));
         HoopHours y = Check.with("walk 1 0;child 1 3;hoop 1;fine 0;long 1;", "9", "give 0 0;roll;");
         CHECK.is("debtor(0) by a fine of 0", -1, y.debtor(0));
     }

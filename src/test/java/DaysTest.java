@@ -29,6 +29,9 @@ public final class DaysTest {
         Check.work(x, "rain;");
         days(x, 5, 2, 0, 7, 1, 0, 3);
         CHECK.is("told(8), the rain stays", 1, x.told(8));
+        Check.work(x, "roll;roll;");
+        CHECK.is("child(0, 4)", 3, x.child(0, 4));
+        days(x, 5, 2, 0, 7, 1, 0, 3);
         HoopHours slow = Check.with("walk 1 16;child 9 3;hoop 1;long 103;fine 3;", "99", "give 0 0;");
         days(slow, 1, 1, 0, 104, 1, 0, 3);
     }
@@ -98,6 +101,8 @@ public final class DaysTest {
                 CHECK.is("span(" + seed + ", " + many + ", 5, 4, 2)", without, x.span(seed, many, 5, 4, 2));
             }
         }
+        CHECK.is("span(1, 1, 1, 0, 1)", x.days(1, 1, 0, 0), x.span(1, 1, 1, 0, 1));
+        CHECK.is("span(1, 1, 200, 16, 0)", x.days(1, 200, 16, 0), x.span(1, 1, 200, 16, 0));
         HoopHours none = new HoopHours();
         CHECK.is("span(5, 7, 9, 9, 0)", 0, none.span(5, 7, 9, 9, 0));
         CHECK.is("span(5, 7, 9, 9, 1)", 0, none.span(5, 7, 9, 9, 1));

@@ -111,6 +111,7 @@ public final class LawTest {
         CHECK.is("would(20, 1, 3, 9, 99, 0, 0)", 99, x.would(20, 1, 3, 9, 99, 0, 0));
         CHECK.is("would(1, 9, 3, 1, 0, 0, 0)", 1, x.would(1, 9, 3, 1, 0, 0, 0));
         Check.law(x, "length * 3 + pace * 2 - age + weight + tired + rain * 30 + walk * 50 + hoop * 50 + bribe");
+        CHECK.is("minutes(2, 1, 1), ahead of it", 99, x.minutes(2, 1, 1));
         CHECK.is("would(1, 2, 3, 4, 5, 0, 7)", 20, x.would(1, 2, 3, 4, 5, 0, 7));
         CHECK.is("would(1, 2, 3, 4, 5, 1, 7)", 50, x.would(1, 2, 3, 4, 5, 1, 7));
         CHECK.is("would(20, 1, 14, 1, 0, 0, 0)", 49, x.would(20, 1, 14, 1, 0, 0, 0));

@@ -37,6 +37,9 @@ public final class RollTest {
         CHECK.is("told(8)", 1, x.told(8));
         Check.work(x, "rain;");
         CHECK.is("told(8)", 0, x.told(8));
+        HoopHours sweet = Check.with(PARK, "", "give 0 0;roll;again 11 [bribe 0 9;];");
+        CHECK.is("rain while child 0 has 99 toffees", 1, Check.work(sweet, "rain;"));
+        CHECK.is("child 0 is tired all the same", 1, sweet.child(0, 2));
         CHECK.is("rest of one who is not tired", 0, Check.work(x, "rest 0;"));
         CHECK.is("told(11)", 1, x.told(11));
         Check.work(x, "give 0 0;roll;roll;");

@@ -65,6 +65,7 @@ public final class TextTest {
         CHECK.is("told(0)", 0, x.told(0));
         CHECK.is("count(1)", 0, x.count(1));
         aNewParkForgets();
+        aNewParkBeginsAnew();
         longsAndFines();
     }
 
@@ -94,6 +95,33 @@ public final class TextTest {
         CHECK.is("hoops", 0, x.child(0, 5));
         CHECK.is("the child that has it", -1, x.hoop(0, 1));
         CHECK.is("latest long", 0, x.hoop(0, 2));
+    }
+
+    private static void aNewParkBeginsAnew() {
+        HoopHours x = Check.with("walk 2 4;walk 3 1;child 3 7;child 4 4;hoop 2;hoop 3;long 1;fine 9;", "",
+            "give 0 1;give 1 1;bribe 0 3;rain;roll;roll;roll;");
+        CHECK.is("told(9)", 9, x.told(9));
+        CHECK.is("park", 2, Check.park(x, "child 3 7;hoop 2;child 2 9;hoop 3;walk 1 1;walk 1 1;"));
+        CHECK.is("told(0)", 2, x.told(0));
+        CHECK.is("told(1)", 2, x.told(1));
+        for (int what = 3; what <= 12; what++) {
+            CHECK.is("told(" + what + ")", 0, x.told(what));
+        }
+        for (int child = 0; child < 2; child++) {
+            for (int what = 2; what <= 5; what++) {
+                CHECK.is("child(" + child + ", " + what + ")", 0, x.child(child, what));
+            }
+        }
+        for (int hoop = 0; hoop < 2; hoop++) {
+            CHECK.is("hoop(" + hoop + ", 1)", -1, x.hoop(hoop, 1));
+            CHECK.is("hoop(" + hoop + ", 2)", 0, x.hoop(hoop, 2));
+        }
+        Check.law(x, "30");
+        Check.work(x, "give 0 0;give 1 1;roll;roll;");
+        CHECK.is("60 is not too long without a long", 0, x.told(12));
+        Check.law(x, "31");
+        Check.work(x, "roll;roll;");
+        CHECK.is("a fine of 5 without a fine", 5, x.told(9));
     }
 
     private static void longsAndFines() {
@@ -292,6 +320,7 @@ public final class TextTest {
     private static void workFaults() {
         CHECK.promise(5, "work, faults");
         workFault("rain;rolls;", 1, 5);
+        workFault("rain;rollz;", 1, 5);
         workFault("rain;roll", 1, 9);
         workFault("rain;roll ", 1, 10);
         workFault("rain;roll 1;", 1, 10);
