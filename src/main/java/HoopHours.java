@@ -1296,7 +1296,7 @@ public final class HoopHours {
         }
     }
 
-    /** The steps of one work: each has a kind and two numbers; of an again these are how often, and where its body ends. */
+    /** The steps of one work, each a kind and two numbers: of an again how often, and where its body ends. */
     private static final class Steps {
         static final int GIVE = 0;
         static final int ROLL = 1;
@@ -1546,7 +1546,7 @@ public final class HoopHours {
             }
         }
 
-        /** By the children that are taken, the least sum of the hoops that are left; more children are reckoned first. */
+        /** By the children that are taken, the least sum of the hoops that are left; it builds on more that are taken. */
         private void findBests() {
             for (int taken = allOf(grounds.children); taken >= 0; taken--) {
                 int best = Integer.bitCount(taken) >= many ? 0 : NEVER_SO_MANY;
