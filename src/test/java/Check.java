@@ -1,4 +1,5 @@
 import java.nio.charset.StandardCharsets;
+import java.util.List;
 
 /** Compares answers with what is due, and feeds texts to an object. */
 final class Check {
@@ -20,6 +21,15 @@ final class Check {
         if (due != got) {
             wrong++;
             System.out.println(promise + ": " + call + " answered " + got + ", due is " + due);
+        }
+    }
+
+    /** Two looks at all of an object. */
+    void same(String when, List<Integer> due, List<Integer> got) {
+        checked++;
+        if (!due.equals(got)) {
+            wrong++;
+            System.out.println(promise + ": all " + when + " is " + got + ", due is " + due);
         }
     }
 
