@@ -463,45 +463,22 @@ public final class AskEdgesTest {
         }
     }
 
+    /** Who loses gives nothing, who wins one toffee, unless the other one would give two for it. */
     private static void gifts() {
-        CHECK.promise(29, "toffee, k of 0 and 9, none that rests");
-        HoopHours x = Check.withPark("hoop 1;hoop 2;hoop 3;hoop 9;");
-        int[][] due = {
-            {0, 0, 1, 0, 0}, {3, 0, 1, 0, 0}, {0, 1, 3, 0, 0}, {1, 1, 2, 1, 1}, {3, 1, 2, 1, 8}, {0, 2, 3, 0, 0}, {1, 2, 2, 2, 0},
-            {2, 2, 2, 2, 1}, {1, 3, 0, -1, 0}, {2, 3, 2, 3, 0}, {2, 4, 0, -1, 0}, {3, 8, 2, 8, 1}, {3, 9, 2, 9, 0}, {2, 9, 0, -1, 0},
-        };
-        for (int[] row : due) {
-            int[] byHand = restsByHand(x.hoop(row[0], 0), row[1]);
-            for (int what = 0; what < 3; what++) {
-                CHECK.is("toffee(" + row[0] + ", " + row[1] + ", " + what + ")", byHand[what], x.toffee(row[0], row[1], what));
-            }
-        }
-        CHECK.is("toffee(3, 1, 0), the one gives nothing, the other one toffee, or the other way round", 2, x.toffee(3, 1, 0));
-        CHECK.is("toffee(3, 1, 1)", 1, x.toffee(3, 1, 1));
-        CHECK.is("toffee(3, 1, 2)", 8, x.toffee(3, 1, 2));
-        CHECK.is("toffee(0, 0, 1), both give nothing", 0, x.toffee(0, 0, 1));
-        CHECK.is("toffee(2, 9, 1), none rests", -1, x.toffee(2, 9, 1));
-        CHECK.is("toffee(2, 9, 2), none rests", 0, x.toffee(2, 9, 2));
-    }
-
-    /** How many rest, the first of them, and what both have by it. */
-    private static int[] restsByHand(int weight, int k) {
-        int[] all = {0, -1, 0};
-        for (int one = 0; one <= k; one++) {
-            for (int other = 0; other <= k; other++) {
-                boolean better = false;
-                for (int gift = 0; gift <= k; gift++) {
-                    better |= (gift > other ? weight - gift : -gift) > (one > other ? weight - one : -one);
-                    better |= (gift > one ? weight - gift : -gift) > (other > one ? weight - other : -other);
-                }
-                if (!better) {
-                    all[2] = all[0] > 0 ? all[2] : (one == other ? 0 : weight) - one - other;
-                    all[1] = all[0] > 0 ? all[1] : 10 * one + other;
-                    all[0]++;
+        CHECK.promise(29, "toffee, k of 0 to 9, none that rests");
+        HoopHours x = Check.withPark("hoop 1;hoop 2;hoop 3;hoop 4;hoop 5;hoop 6;hoop 8;hoop 9;");
+        for (int hoop = 0; hoop < 8; hoop++) {
+            int weight = x.hoop(hoop, 0);
+            for (int k = 0; k <= 9; k++) {
+                int[] due = k == 0 ? new int[] {1, 0, 0}
+                    : weight == 1 ? new int[] {3, 0, 0}
+                    : k == 1 || weight == 2 ? new int[] {2, 1, weight - 1}
+                    : new int[] {0, -1, 0};
+                for (int what = 0; what < 3; what++) {
+                    CHECK.is("toffee(" + hoop + ", " + k + ", " + what + ")", due[what], x.toffee(hoop, k, what));
                 }
             }
         }
-        return all;
     }
 
     private static void shares() {
