@@ -28,6 +28,7 @@ public final class FaceTest {
 
     public static void main(String[] args) throws ReflectiveOperationException {
         members();
+        example();
         anyNumbers();
         CHECK.end();
     }
@@ -51,6 +52,16 @@ public final class FaceTest {
         for (Constructor<?> made : HoopHours.class.getDeclaredConstructors()) {
             CHECK.is("public constructor", 1, Modifier.isPublic(made.getModifiers()) ? 1 : 0);
         }
+    }
+
+    /** As README.md tells it. */
+    private static void example() {
+        CHECK.promise(2, "the example of README.md");
+        HoopHours x = new HoopHours();
+        CHECK.is("feed", 20, x.feed(0x77616c6b, 0x20322034, 0x3b636869, 0x6c642033, 0x20373b68));
+        CHECK.is("feed", 40, x.feed(0x6f6f7020, 0x323b0000, 0, 0, 0));
+        CHECK.is("park(26)", 1, x.park(26));
+        CHECK.is("lasts(0, 0)", 6, x.lasts(0, 0));
     }
 
     /** Calls with numbers near and far; only what the document names may be thrown. */

@@ -1,8 +1,13 @@
 import java.io.IOException;
+import java.lang.reflect.Field;
+import java.lang.reflect.Method;
+import java.lang.reflect.Modifier;
 import java.nio.charset.StandardCharsets;
 import java.nio.file.Files;
 import java.nio.file.Path;
+import java.util.ArrayList;
 import java.util.HashSet;
+import java.util.List;
 import java.util.Set;
 import java.util.regex.Matcher;
 import java.util.regex.Pattern;
@@ -26,6 +31,7 @@ public final class LanguageTest {
             && source.startsWith("import java.util.NoSuchElementException;") ? 1 : 0);
         methodNames(source);
         lengths(source);
+        classes();
         CHECK.end();
     }
 
@@ -57,6 +63,28 @@ public final class LanguageTest {
                     end++;
                 }
                 CHECK.is("more than 60 lines from line " + (i + 1), 0, end - i > 60 ? 1 : 0);
+            }
+        }
+    }
+
+    /** Rules 1, 5 and 11: what a class is made of. */
+    private static void classes() {
+        List<Class<?>> all = new ArrayList<>(List.of(HoopHours.class));
+        all.addAll(List.of(HoopHours.class.getDeclaredClasses()));
+        CHECK.is("more than twelve classes", 0, all.size() > 12 ? 1 : 0);
+        CHECK.is("the face is public and final", Modifier.PUBLIC | Modifier.FINAL, HoopHours.class.getModifiers());
+        for (Class<?> one : all) {
+            CHECK.is(one + " is the face, or private and static", 1, one == HoopHours.class
+                || Modifier.isPrivate(one.getModifiers()) && Modifier.isStatic(one.getModifiers()) ? 1 : 0);
+            int fields = 0;
+            for (Field field : one.getDeclaredFields()) {
+                boolean fixed = Modifier.isStatic(field.getModifiers());
+                fields += fixed ? 0 : 1;
+                CHECK.is(field + " is final, if it is static", 1, !fixed || Modifier.isFinal(field.getModifiers()) ? 1 : 0);
+            }
+            CHECK.is(one + " has more than twenty fields", 0, fields > 20 ? 1 : 0);
+            for (Method method : one.getDeclaredMethods()) {
+                CHECK.is(method + " takes more than seven", 0, method.getParameterCount() > 7 ? 1 : 0);
             }
         }
     }
